@@ -1,0 +1,148 @@
+import java.io.IOException;
+import java.lang.reflect.Constructor;
+import java.lang.reflect.Field;
+import java.lang.reflect.Member;
+import java.lang.reflect.Method;
+import java.lang.reflect.Modifier;
+import java.nio.file.Files;
+import java.nio.file.Path;
+import java.util.List;
+import java.util.TreeSet;
+
+/** The public face is the document's to the letter, and the file keeps to rules that a text search can see. */
+public final class FaceTest {
+    private static final String[] CONSTANTS = {
+        "NONE=-1", "RING=-2", "FULL=-3", "UNABLE=-4", "SPARE=-5", "SAME=1000",
+        "NOTHING=-11", "CAST=-12", "PLACE=-13", "SIZE=-14", "THROWN=-15",
+    };
+
+    private static final String[] METHODS = {
+        "int begin(int,int,int)", "int gate(int,int,int,int,int)", "int rewire(int,int,int,int)", "int out(int,int,int)",
+        "int next(int,int,int)", "int free(int)", "int value(int,int,int)",
+        "long row(int,int,int) IllegalArgumentException", "int hangs(int,int,int)", "int differ()",
+        "int enough(int,int,int)", "int points(int)", "int point(int)", "int mend(int,int,int,int)",
+        "int witness(int,int,int,int)", "int judge(int,int,int,int)", "int patch(int,int,int,int,int)", "int clash(int)",
+        "int mark(int,int)", "int best(int)", "int patched(int)", "int function(int)", "int told(int)",
+        "int node(int,int)", "int cost(int,int)", "int site(int,int,int)", "int spare(int,int,int)", "int place()",
+        "int used(int)", "int delay(int,int)", "int arrive(int,int)", "int late(int)", "int apply()", "int undo()",
+        "int change(int,int)", "int test(int)", "int idle(int)", "int tape(int,int,int)", "int image(int)",
+        "int back(int)", "int toss(int)", "int clear(int)", "int put(int,int,long)",
+        "long at(int,int) IllegalArgumentException IllegalStateException", "int copy(int,int,int,int,int)",
+        "int count(int)",
+    };
+
+    /** What LANGUAGE.md leaves out. */
+    private static final String[] BANNED = {
+        "->", "::", "finally", "synchronized", "assert ", "catch", "Exact(", "package ", "System.nanoTime",
+        "System.currentTimeMillis", "Random", "getMessage", "protected", " record ", "interface ", "hashCode",
+        "toString", "equals(", "Object ", "lambda", "double", "float",
+    };
+
+    private static int wrong;
+
+    public static void main(String[] args) throws IOException {
+        face();
+        nested();
+        source();
+        System.out.println(wrong == 0 ? "the face and the file are as due" : wrong + " faults");
+        if (wrong != 0) System.exit(1);
+    }
+
+    private static void fault(String text) {
+        wrong++;
+        System.out.println(text);
+    }
+
+    private static void face() {
+        if (GatePatch.class.getModifiers() != (Modifier.PUBLIC | Modifier.FINAL)) fault("the class is not public final");
+        TreeSet<String> found = new TreeSet<>();
+        for (Field f : GatePatch.class.getDeclaredFields()) if (open(f)) found.add(constant(f));
+        same("constants", found, CONSTANTS);
+        found.clear();
+        TreeSet<String> names = new TreeSet<>();
+        for (Method m : GatePatch.class.getDeclaredMethods()) {
+            if (open(m)) {
+                found.add(method(m));
+                names.add(m.getName());
+            }
+        }
+        same("methods", found, METHODS);
+        for (Method m : GatePatch.class.getDeclaredMethods()) {
+            if (!open(m) && names.contains(m.getName())) fault("a private method is named " + m.getName());
+        }
+        for (Constructor<?> c : GatePatch.class.getDeclaredConstructors()) {
+            if (!Modifier.isPublic(c.getModifiers()) || c.getParameterCount() != 0) fault("a constructor too many: " + c);
+        }
+    }
+
+    private static void same(String what, TreeSet<String> found, String[] due) {
+        TreeSet<String> wanted = new TreeSet<>(List.of(due));
+        for (String w : wanted) if (!found.contains(w)) fault(what + ": " + w + " is missing");
+        for (String f : found) if (!wanted.contains(f)) fault(what + ": " + f + " is not of the face");
+    }
+
+    private static boolean open(Member m) { return !Modifier.isPrivate(m.getModifiers()) && !m.isSynthetic(); }
+
+    private static String constant(Field f) {
+        int modifiers = Modifier.PUBLIC | Modifier.STATIC | Modifier.FINAL;
+        try {
+            return f.getModifiers() == modifiers && f.getType() == int.class ? f.getName() + "=" + f.getInt(null) : f.toString();
+        } catch (IllegalAccessException e) {
+            return f.toString();
+        }
+    }
+
+    private static String method(Method m) {
+        if (m.getModifiers() != Modifier.PUBLIC) return m.toString();
+        StringBuilder text = new StringBuilder(m.getReturnType().getName()).append(' ').append(m.getName()).append('(');
+        String comma = "";
+        for (Class<?> p : m.getParameterTypes()) {
+            text.append(comma).append(p.getName());
+            comma = ",";
+        }
+        text.append(')');
+        for (Class<?> e : m.getExceptionTypes()) text.append(' ').append(e.getSimpleName());
+        return text.toString();
+    }
+
+    private static void nested() {
+        Class<?>[] inside = GatePatch.class.getDeclaredClasses();
+        if (inside.length > 11) fault("more than twelve classes");
+        for (Class<?> c : inside) {
+            if (!Modifier.isStatic(c.getModifiers()) || Modifier.isPublic(c.getModifiers())) fault(c + " is not as rule 1 says");
+            fields(c);
+        }
+        fields(GatePatch.class);
+    }
+
+    private static void fields(Class<?> c) {
+        int own = 0;
+        for (Field f : c.getDeclaredFields()) {
+            if (!Modifier.isStatic(f.getModifiers())) own++;
+            else if (!Modifier.isFinal(f.getModifiers())) fault(f + " is static and not final");
+        }
+        if (own > 20) fault(c + " has " + own + " fields");
+        for (Method m : c.getDeclaredMethods()) if (m.getParameterCount() > 7) fault(m + " has too many parameters");
+    }
+
+    private static void source() throws IOException {
+        List<String> lines = Files.readAllLines(Path.of("src/main/java/GatePatch.java"));
+        int start = 0;
+        for (int i = 0; i < lines.size(); i++) {
+            String line = lines.get(i);
+            String code = line.strip();
+            if (code.startsWith("*") || code.startsWith("/*") || code.startsWith("//")) continue;
+            for (String b : BANNED) if (code.contains(b)) fault("line " + (i + 1) + " has " + b);
+            if (code.startsWith("import ") && !code.equals("import java.util.Arrays;")) fault("line " + (i + 1) + ": " + code);
+            boolean made = code.contains("new ") && !code.startsWith("throw new ");
+            // no call makes an object: only fields and two loops in constructors do
+            if (made && !code.contains("final ") && !code.startsWith("tapes[d] = ") && !code.startsWith("before[i] = ")) {
+                fault("line " + (i + 1) + " makes an object in a call");
+            }
+            if (line.matches(" {4,8}\\w.*\\) (throws .*)?\\{")) start = i;
+            if (line.matches(" {4,8}}") && i - start > 60) fault("line " + (i + 1) + ": a method of more than 60 lines, or none");
+            if (line.matches(" {4,8}}")) start = i;
+            for (int k = 0; k < line.length(); k++) if (line.charAt(k) > 126) fault("line " + (i + 1) + " has a sign beyond 126");
+        }
+    }
+}
