@@ -44,7 +44,7 @@ public final class PromisesTest {
     }
 
     private static void placesAndApplying() {
-        p27(); p28(); p29(); p29order(); p30(); p31and32(); p33(); p34(); p34two(); p34leaf(); p34full(); p35(); p35none(); p36(); p37(); p38();
+        p27(); p28(); p29(); p29order(); p30(); p31and32(); p33(); p34(); p34two(); p34leaf(); p34full(); p35(); p35none(); p36(); p36most(); p37(); p38();
     }
 
     private static void tapes() {
@@ -876,6 +876,9 @@ public final class PromisesTest {
         due(10, x.mark(9, 9));
         due(FULL, x.mark(10, 0));
         due(10, x.mark(9, 1));
+        due(10, x.mark(3, 5));
+        due(10, x.mark(3, 0));
+        due(10, x.mark(3, 0));
         due(10, x.mark(10, -1));
         due(9, x.mark(0, -1));
         due(9, x.mark(0, -1));
@@ -1246,7 +1249,17 @@ public final class PromisesTest {
         due(1, x.used(0));
         due(0, x.undo());
         due(0, x.used(0));
+        // behind begin() a SPARE is a new one
+        due(1, x.patch(2, -1, 0, 1, -1));
+        due(6, x.place());
+        due(1, x.apply());
+        due(1, x.used(0));
+        x.begin(2, 0, 1);
+        x.spare(OR, 1, 1);
+        due(0, x.used(0));
         // a PATCH that isn't PLACED uses none
+        x = andTo(OR);
+        x.spare(OR, 1, 1);
         due(1, x.patch(2, -1, 0, 1, -1));
         due(1, x.apply());
         due(0, x.used(0));
@@ -1556,6 +1569,28 @@ public final class PromisesTest {
         due(NONE, x.change(0, 0));
     }
 
+    /** 39 MUXES with all PINS on the POINT, and all OBSERVED: no APPLYING has more CHANGES. */
+    private static void p36most() {
+        begin(36);
+        GatePatch x = new GatePatch();
+        x.begin(6, 2, 4);
+        x.gate(0, ZERO, -1, -1, -1);
+        for (int g = 9; g < 48; g++) x.gate(0, MUX, 8, 8, 8);
+        for (int o = 0; o < 4; o++) x.out(0, o, 8);
+        for (int s = 0; s < 2; s++) x.next(0, s, 8);
+        due(0, x.patch(8, -1, 0, 1, 7));
+        due(0, x.apply());
+        due(123, x.count(8));
+        due(47, x.change(116, 1));
+        due(2, x.change(116, 2));
+        due(3, x.change(120, 1));
+        due(2, x.change(122, 0));
+        due(1, x.change(122, 1));
+        due(NONE, x.change(123, 0));
+        due(40, x.idle(0));
+        due(0, x.rewire(0, 47, 2, 1));
+    }
+
     private static void p37() {
         begin(37);
         GatePatch x = andTo(XOR);
@@ -1708,6 +1743,13 @@ public final class PromisesTest {
         due(2, x.back(2));
         due(0, x.value(0, 4, 3));
         due(1, x.value(0, 4, 1));
+        // KINDS and PINS come from the IMAGE, whatever GATES had these numbers since
+        x.begin(2, 1, 2);
+        x.gate(0, ZERO, -1, -1, -1);
+        x.gate(0, MUX, 3, 3, 0);
+        due(2, x.back(2));
+        due(0x88, x.row(0, 3, 0));
+        due(0x77, x.row(0, 4, 0));
     }
 
     private static void p42() {

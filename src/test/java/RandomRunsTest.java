@@ -219,10 +219,21 @@ public final class RandomRunsTest {
         else if (dice < 60) netSteps();
         else if (dice < 80) tapeSteps();
         else if (dice < 99) readSteps();
-        else if (chance(20)) {
+        else if (chance(40)) beginAgain();
+    }
+
+    /** At times with the same inputs, stores and outputs, so that an IMAGE can come back. */
+    private void beginAgain() {
+        int d = random.nextInt(6);
+        if (chance(50)) {
+            call("image", d);
+            call("begin", model.old.i, model.old.s, model.old.o);
+        } else {
             call("begin", near(7), near(3), near(5));
-            if (chance(50)) build(1 + random.nextInt(8));
         }
+        if (chance(70)) build(1 + random.nextInt(8));
+        if (chance(50)) randomSpare();
+        if (chance(70)) call("back", d);
     }
 
     private void patchSteps() {
