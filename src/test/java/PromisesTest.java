@@ -51,64 +51,6 @@ public final class PromisesTest {
         p39(); p40(); p41(); p42(); p43(); p44(); p45(); p46(); p47();
     }
 
-    // ---- helpers ----
-
-    /** 2 inputs; OLD's output is AND of them (WIRE 2), WISH's is another KIND of them. */
-    private static GatePatch andTo(int kind) {
-        GatePatch x = new GatePatch();
-        x.begin(2, 0, 1);
-        x.gate(0, AND, 0, 1, -1);
-        x.gate(1, kind, 0, 1, -1);
-        x.out(0, 0, 2);
-        x.out(1, 0, 2);
-        return x;
-    }
-
-    /** 3 inputs; OLD's output is ZERO (WIRE 3), WISH's is this function of the inputs. */
-    private static GatePatch zeroTo(int function) {
-        GatePatch x = new GatePatch();
-        x.gate(0, ZERO, -1, -1, -1);
-        x.out(0, 0, 3);
-        x.out(1, 0, table(x, function));
-        return x;
-    }
-
-    /** WISH gets ZERO, ONE and MUXES that make this function of its first three inputs: the WIRE. */
-    private static int table(GatePatch x, int function) {
-        int zero = x.gate(1, ZERO, -1, -1, -1);
-        int one = x.gate(1, ONE, -1, -1, -1);
-        return branch(x, function, 2, zero, one);
-    }
-
-    private static int branch(GatePatch x, int f, int input, int zero, int one) {
-        if (input < 0) return (f & 1) == 1 ? one : zero;
-        int half = 1 << input;
-        int high = branch(x, f >> half, input - 1, zero, one);
-        int low = branch(x, f & (1 << half) - 1, input - 1, zero, one);
-        return x.gate(1, MUX, input, high, low);
-    }
-
-    /** 0: nothing is thrown; 1: IllegalArgumentException; 2: IllegalStateException. */
-    private static int rowThrows(GatePatch x, int net, int wire, int part) {
-        try {
-            x.row(net, wire, part);
-            return 0;
-        } catch (IllegalArgumentException e) {
-            return 1;
-        }
-    }
-
-    private static int atThrows(GatePatch x, int d, int i) {
-        try {
-            x.at(d, i);
-            return 0;
-        } catch (IllegalArgumentException e) {
-            return 1;
-        } catch (IllegalStateException e) {
-            return 2;
-        }
-    }
-
     // ---- nets and cases ----
 
     private static void p1() {
@@ -163,7 +105,7 @@ public final class PromisesTest {
     }
 
     private static void p2resets() {
-        GatePatch x = andTo(OR);
+        GatePatch x = Nets.andTo(OR);
         x.spare(OR, 1, 1);
         x.delay(OR, 7);
         x.mark(2, 5);
@@ -192,7 +134,7 @@ public final class PromisesTest {
         due(1, x.mark(2, 5));
         due(1, x.toss(3));
         // a PATCH does not outlive begin(), and a refused begin() leaves all as it was
-        x = andTo(OR);
+        x = Nets.andTo(OR);
         due(1, x.patch(2, -1, 0, 1, -1));
         due(NONE, x.begin(2, 0, 9));
         due(1, x.patched(0));
@@ -235,7 +177,7 @@ public final class PromisesTest {
         due(24, x.count(4));
         // a GATE that is made drops the PATCH, in OLD and in WISH
         for (int net = 0; net < 2; net++) {
-            x = andTo(OR);
+            x = Nets.andTo(OR);
             due(1, x.patch(2, -1, 0, 1, -1));
             due(3, x.gate(net, NOT, 0, -1, -1));
             due(NONE, x.patched(0));
@@ -270,7 +212,7 @@ public final class PromisesTest {
         // 4 is MUX(x2, x0, x1), 5 its NOT, 3 is AND(5, x2)
         due(0, x.value(0, 3, 5));
         due(1, x.value(0, 3, 6));
-        x = andTo(OR);
+        x = Nets.andTo(OR);
         due(1, x.patch(2, -1, 0, 1, -1));
         due(0, x.rewire(1, 2, 0, 0));
         due(NONE, x.patched(0));
@@ -306,7 +248,7 @@ public final class PromisesTest {
         GatePatch y = new GatePatch();
         due(NONE, y.next(0, 0, 0));
         for (int net = 0; net < 2; net++) {
-            x = andTo(OR);
+            x = Nets.andTo(OR);
             begin(5);
             due(1, x.patch(2, -1, 0, 1, -1));
             due(2, x.out(net, 0, 2));
@@ -323,7 +265,7 @@ public final class PromisesTest {
 
     private static void p7() {
         begin(7);
-        GatePatch x = andTo(OR);
+        GatePatch x = Nets.andTo(OR);
         due(1, x.free(1));
         due(1, x.free(3));
         due(2, x.count(5));
@@ -336,7 +278,7 @@ public final class PromisesTest {
         due(2, x.differ());
         due(1, x.free(2));
         due(SAME, x.differ());
-        x = andTo(OR);
+        x = Nets.andTo(OR);
         due(1, x.patch(2, -1, 0, 1, -1));
         due(NONE, x.free(4));
         due(1, x.patched(0));
@@ -377,13 +319,13 @@ public final class PromisesTest {
         x.gate(0, NAND, 0, 1, -1);
         due(0x77, x.row(0, 3, 0));
         for (int part = 1; part < 4; part++) due(0, x.row(0, 3, part));
-        due(1, rowThrows(x, 0, 4, 0));
-        due(1, rowThrows(x, 0, -1, 0));
-        due(1, rowThrows(x, 1, 3, 0));
-        due(1, rowThrows(x, 2, 0, 0));
-        due(1, rowThrows(x, 0, 0, 4));
-        due(1, rowThrows(x, 0, 0, -1));
-        due(0, rowThrows(x, 0, 0, 3));
+        due(1, Nets.rowThrows(x, 0, 4, 0));
+        due(1, Nets.rowThrows(x, 0, -1, 0));
+        due(1, Nets.rowThrows(x, 1, 3, 0));
+        due(1, Nets.rowThrows(x, 2, 0, 0));
+        due(1, Nets.rowThrows(x, 0, 0, 4));
+        due(1, Nets.rowThrows(x, 0, 0, -1));
+        due(0, Nets.rowThrows(x, 0, 0, 3));
         x.begin(6, 1, 1);
         x.gate(0, ONE, -1, -1, -1);
         due(-1L, x.row(0, 7, 0));
@@ -433,7 +375,7 @@ public final class PromisesTest {
 
     private static void p11() {
         begin(11);
-        GatePatch x = andTo(XOR);
+        GatePatch x = Nets.andTo(XOR);
         due(1, x.differ());
         x.free(1);
         due(2, x.differ());
@@ -599,7 +541,7 @@ public final class PromisesTest {
 
     private static void p16() {
         begin(16);
-        GatePatch x = andTo(NOR);
+        GatePatch x = Nets.andTo(NOR);
         x.gate(0, NOT, 2, -1, -1);
         x.gate(0, AND, 2, 3, -1);
         due(UNABLE, x.witness(0, 3, -1, -1));
@@ -611,13 +553,13 @@ public final class PromisesTest {
         due(4, x.witness(0, 2, -1, -1));
         due(1, x.at(0, 0));
         due(0, x.at(0, 1) + x.at(0, 2) + x.at(0, 3));
-        due(2, atThrows(x, 0, 4));
+        due(2, Nets.atThrows(x, 0, 4));
         due(1, x.clear(0));
         x.free(0);
         x.tape(5, 4, 200);
         due(4, x.witness(5, 2, -1, -1));
         due(0, x.at(5, 0));
-        due(2, atThrows(x, 5, 4));
+        due(2, Nets.atThrows(x, 5, 4));
         due(UNABLE, x.witness(5, 3, -1, -1));
         due(1, x.clear(5));
         x.begin(8, 0, 1);
@@ -631,7 +573,7 @@ public final class PromisesTest {
 
     private static void p17() {
         begin(17);
-        GatePatch x = andTo(OR);
+        GatePatch x = Nets.andTo(OR);
         x.gate(0, NOT, 0, -1, -1);
         due(NONE, x.judge(6, 2, -1, -1));
         due(NONE, x.judge(-1, 2, -1, -1));
@@ -687,7 +629,7 @@ public final class PromisesTest {
 
     private static void p18refusals() {
         begin(18);
-        GatePatch x = andTo(OR);
+        GatePatch x = Nets.andTo(OR);
         x.gate(0, NOT, 2, -1, -1);
         x.gate(0, OR, 0, 1, -1);
         due(1, x.patch(2, -1, 0, 1, -1));
@@ -726,7 +668,7 @@ public final class PromisesTest {
         begin(18);
         int[][] rows = {{0, 0}, {255, 0}, {0xAA, 0}, {0xF0, 0}, {0x55, 1}, {150, 2}, {105, 3}, {232, 4}, {1, 2}, {0xCA, 3}, {22, 4}};
         for (int[] r : rows) {
-            GatePatch x = zeroTo(r[0]);
+            GatePatch x = Nets.zeroTo(r[0]);
             due(r[1], x.patch(3, -1, 0, 1, 2));
             due(r[0], x.function(0));
             due(r[1], x.patched(0));
@@ -734,7 +676,7 @@ public final class PromisesTest {
             due(SAME, x.differ());
         }
         // of two functions that cost the same the least number, among those that FREE leaves
-        GatePatch x = zeroTo(0x96);
+        GatePatch x = Nets.zeroTo(0x96);
         for (int k = 0; k < 8; k++) if (k != 3 && k != 1) x.free(k);
         due(1, x.patch(3, -1, 0, 1, 2));
         // 1 at case 1 and 0 at case 3: NOR of x1, x2 is 3, which is the least with COST 1
@@ -793,7 +735,7 @@ public final class PromisesTest {
 
     private static void p18kept() {
         begin(18);
-        GatePatch x = andTo(OR);
+        GatePatch x = Nets.andTo(OR);
         x.spare(OR, 0, 0);
         due(1, x.patch(2, -1, 0, 1, -1));
         due(0, x.place());
@@ -819,7 +761,7 @@ public final class PromisesTest {
     private static void p18free() {
         begin(18);
         // a PATTERN whose CASES are all FREE allows everything
-        GatePatch x = andTo(XOR);
+        GatePatch x = Nets.andTo(XOR);
         x.free(3);
         due(1, x.patch(2, -1, 0, 1, -1));
         due(6, x.function(0));
@@ -832,7 +774,7 @@ public final class PromisesTest {
 
     private static void p19() {
         begin(19);
-        GatePatch x = andTo(XOR);
+        GatePatch x = Nets.andTo(XOR);
         due(NONE, x.clash(0));
         due(UNABLE, x.patch(2, -1, 0, -1, -1));
         // cases 0, 1, 2, 3 want 0, 1, 1, 0; by input 0 case 2 clashes with case 0
@@ -890,7 +832,7 @@ public final class PromisesTest {
         due(NONE, x.mark(11, -1));
         due(FULL, x.mark(0, 0));
         // changes of OLD leave MARKS; undo() and back() take those of the WIRES that go
-        x = andTo(OR);
+        x = Nets.andTo(OR);
         x.image(0);
         due(1, x.patch(2, -1, 0, 1, -1));
         due(1, x.apply());
@@ -911,7 +853,7 @@ public final class PromisesTest {
 
     private static void p21() {
         begin(21);
-        GatePatch x = andTo(OR);
+        GatePatch x = Nets.andTo(OR);
         x.gate(0, OR, 0, 1, -1);
         x.gate(0, NOT, 2, -1, -1);
         due(NONE, x.best(1));
@@ -946,7 +888,7 @@ public final class PromisesTest {
     private static void p21order() {
         begin(21);
         // the output is 1 wherever it isn't FREE: no WIRE at all is wanted, and none beats one for nothing
-        GatePatch x = andTo(OR);
+        GatePatch x = Nets.andTo(OR);
         x.free(0);
         x.mark(0, 0);
         x.mark(1, 0);
@@ -954,7 +896,7 @@ public final class PromisesTest {
         due(0, x.patched(2));
         due(1, x.function(0));
         // three twins of one GATE at one price: the first; then, by a lesser price, the last
-        x = andTo(OR);
+        x = Nets.andTo(OR);
         for (int g = 0; g < 3; g++) x.gate(0, OR, 0, 1, -1);
         for (int w = 5; w > 2; w--) x.mark(w, 5);
         due(5, x.best(2));
@@ -981,7 +923,7 @@ public final class PromisesTest {
         due(18, x.best(2));
         due(2, x.patched(2));
         // a set of three WIRES; sets of equal sums and sizes by their WIRES
-        x = zeroTo(150);
+        x = Nets.zeroTo(150);
         x.gate(0, XOR, 0, 0, -1);
         x.gate(0, OR, 1, 1, -1);
         for (int w = 0; w < 6; w++) if (w != 3) x.mark(w, 1);
@@ -997,7 +939,7 @@ public final class PromisesTest {
 
     private static void p22to25() {
         begin(22);
-        GatePatch x = zeroTo(150);
+        GatePatch x = Nets.zeroTo(150);
         for (int what = 0; what < 4; what++) due(NONE, x.patched(what));
         begin(23);
         due(NONE, x.function(0));
@@ -1036,7 +978,7 @@ public final class PromisesTest {
         due(NONE, x.node(0, -1));
         due(NONE, x.node(2, 0));
         due(NONE, x.node(-1, 0));
-        x = zeroTo(0x33);
+        x = Nets.zeroTo(0x33);
         due(1, x.patch(3, -1, 1, -1, -1));
         due(NOT, x.node(0, 0));
         due(100, x.node(0, 1));
@@ -1054,7 +996,7 @@ public final class PromisesTest {
         // majority, 232, costs 4. AND comes first: g AND h with COSTS that add to 3; g the least: 168 (0 AND (1 OR 2))
         // is no part of an AND for 232; 232 = g AND h wants g, h above 232 in each bit: 234 = 0 OR (1 AND 2)
         // costs 2, with h = 252 = 1 OR 2, which costs 1: 234 AND 252 = 232. Less than 234: 232 only. So g = 234.
-        GatePatch x = zeroTo(232);
+        GatePatch x = Nets.zeroTo(232);
         due(4, x.patch(3, -1, 0, 1, 2));
         due(AND, x.node(3, 0));
         due(1, x.node(3, 1));
@@ -1159,7 +1101,7 @@ public final class PromisesTest {
 
     private static void p29() {
         begin(29);
-        GatePatch x = andTo(OR);
+        GatePatch x = Nets.andTo(OR);
         due(NONE, x.place());
         x.site(0, 2, 0);
         x.site(1, 0, 3);
@@ -1181,12 +1123,12 @@ public final class PromisesTest {
         due(2, x.node(0, 4));
         due(1, x.patched(3));
         // a leaf ONE: no GATE, no length
-        x = zeroTo(255);
+        x = Nets.zeroTo(255);
         due(0, x.patch(3, -1, -1, -1, -1));
         due(0, x.place());
         due(1, x.patched(3));
         // a NOT has one part alone
-        x = zeroTo(0x55);
+        x = Nets.zeroTo(0x55);
         x.site(0, 4, 4);
         x.spare(NOT, 4, 0);
         due(1, x.patch(3, -1, 0, -1, -1));
@@ -1236,7 +1178,7 @@ public final class PromisesTest {
 
     private static void p30() {
         begin(30);
-        GatePatch x = andTo(OR);
+        GatePatch x = Nets.andTo(OR);
         due(NONE, x.used(0));
         x.spare(OR, 1, 1);
         due(0, x.used(0));
@@ -1258,7 +1200,7 @@ public final class PromisesTest {
         x.spare(OR, 1, 1);
         due(0, x.used(0));
         // a PATCH that isn't PLACED uses none
-        x = andTo(OR);
+        x = Nets.andTo(OR);
         x.spare(OR, 1, 1);
         due(1, x.patch(2, -1, 0, 1, -1));
         due(1, x.apply());
@@ -1326,7 +1268,7 @@ public final class PromisesTest {
 
     private static void p34() {
         begin(34);
-        GatePatch x = andTo(NOR);
+        GatePatch x = Nets.andTo(NOR);
         x.gate(0, NOT, 2, -1, -1);
         x.gate(0, AND, 2, 2, -1);
         x.site(2, 7, 2);
@@ -1401,7 +1343,7 @@ public final class PromisesTest {
 
     private static void p34leaf() {
         begin(34);
-        GatePatch x = andTo(OR);
+        GatePatch x = Nets.andTo(OR);
         x.gate(0, OR, 0, 1, -1);
         x.spare(OR, 9, 9);
         x.site(2, 6, 6);
@@ -1410,7 +1352,7 @@ public final class PromisesTest {
         due(3, x.out(0, 0, 3));
         due(2, x.count(3));
         // ZERO as a whole function is a GATE at the POINT's place, PLACED or not
-        x = zeroTo(255);
+        x = Nets.zeroTo(255);
         x.site(3, 6, 6);
         due(0, x.patch(3, -1, 0, 1, 2));
         due(0, x.place());
@@ -1431,7 +1373,7 @@ public final class PromisesTest {
 
     private static void p34full() {
         begin(34);
-        GatePatch x = zeroTo(150);
+        GatePatch x = Nets.zeroTo(150);
         for (int g = 0; g < 37; g++) x.gate(0, NOT, 0, -1, -1);
         due(2, x.patch(3, -1, 0, 1, 2));
         due(2, x.apply());
@@ -1444,7 +1386,7 @@ public final class PromisesTest {
         due(39, x.count(3));
         due(0, x.count(7));
         // a leaf ZERO or ONE wants room too, a leaf j does not
-        x = zeroTo(255);
+        x = Nets.zeroTo(255);
         for (int g = 0; g < 39; g++) x.gate(0, NOT, 0, -1, -1);
         due(0, x.patch(3, -1, -1, -1, -1));
         due(FULL, x.apply());
@@ -1456,7 +1398,7 @@ public final class PromisesTest {
 
     private static void p35() {
         begin(35);
-        GatePatch x = andTo(OR);
+        GatePatch x = Nets.andTo(OR);
         due(NONE, x.undo());
         x.site(2, 5, 5);
         for (int i = 0; i < 6; i++) {
@@ -1593,7 +1535,7 @@ public final class PromisesTest {
 
     private static void p37() {
         begin(37);
-        GatePatch x = andTo(XOR);
+        GatePatch x = Nets.andTo(XOR);
         due(NONE, x.test(0));
         x.free(2);
         due(1, x.patch(2, -1, 0, 1, -1));
@@ -1653,8 +1595,8 @@ public final class PromisesTest {
         due(0, x.tape(0, 1, 0));
         due(256, x.tape(5, 4, 256));
         due(0, x.at(5, 255));
-        due(2, atThrows(x, 5, 256));
-        due(2, atThrows(x, 0, 0));
+        due(2, Nets.atThrows(x, 5, 256));
+        due(2, Nets.atThrows(x, 0, 0));
         due(NONE, x.tape(6, 1, 1));
         due(NONE, x.tape(-1, 1, 1));
         due(NONE, x.tape(0, 0, 1));
@@ -1823,16 +1765,16 @@ public final class PromisesTest {
     private static void p45() {
         begin(45);
         GatePatch x = new GatePatch();
-        due(1, atThrows(x, 6, 0));
-        due(1, atThrows(x, -1, 0));
-        due(2, atThrows(x, 0, 0));
+        due(1, Nets.atThrows(x, 6, 0));
+        due(1, Nets.atThrows(x, -1, 0));
+        due(2, Nets.atThrows(x, 0, 0));
         x.image(0);
-        due(2, atThrows(x, 0, 0));
+        due(2, Nets.atThrows(x, 0, 0));
         x.tape(0, 4, 2);
-        due(2, atThrows(x, 0, 2));
-        due(2, atThrows(x, 0, -1));
-        due(2, atThrows(x, 0, LEAST));
-        due(0, atThrows(x, 0, 1));
+        due(2, Nets.atThrows(x, 0, 2));
+        due(2, Nets.atThrows(x, 0, -1));
+        due(2, Nets.atThrows(x, 0, LEAST));
+        due(0, Nets.atThrows(x, 0, 1));
         x.put(0, 1, Long.MIN_VALUE);
         due(Long.MIN_VALUE, x.at(0, 1));
         due(0, x.count(10));

@@ -1,0 +1,1 @@
+final class Calls { Calls(Rows r) {} void all() {} }

@@ -1,0 +1,1 @@
+final class Refusals { Refusals(Rows r) {} void all() {} }
