@@ -607,7 +607,29 @@ final class Calls {
         r.due(65, x.judge(2, 8, 9, -1));
         x.put(2, 65, 3);
         r.due(127, x.judge(2, 8, 9, -1));
+        judgeBorders();
         judgeRefusals();
+    }
+
+    /** The greatest nets there are, one element wrong at a time; then the same with its CASE FREE. */
+    private void judgeBorders() {
+        GatePatch x = new GatePatch();
+        x.begin(8, 0, 1);
+        for (int g = 0; g < 40; g++) x.gate(0, ZERO, -1, -1, -1);
+        x.out(0, 0, 47);
+        x.gate(1, ZERO, -1, -1, -1);
+        x.out(1, 0, 8);
+        r.due(256, x.witness(4, 47, -1, -1));
+        r.due(SAME, x.judge(4, 47, -1, -1));
+        for (int k : new int[] {0, 1, 62, 63, 64, 65, 127, 128, 191, 192, 254, 255}) {
+            x.put(4, k, 1);
+            r.due(k, x.judge(4, 47, -1, -1));
+            x.free(k);
+            r.due(SAME, x.judge(4, 47, -1, -1));
+            x.free(k);
+            x.put(4, k, 0);
+            r.due(SAME, x.judge(4, 47, -1, -1));
+        }
     }
 
     private void judgeRefusals() {
@@ -1183,6 +1205,39 @@ final class Calls {
         r.due(1, x.apply());
         r.due(0, x.site(5, 0, 0));
         r.due(SAME, x.differ());
+        placeAgain();
+    }
+
+    /** As many SPARES as GATES, behind PLACINGS of more of them that were found and that were not. */
+    private void placeAgain() {
+        GatePatch x = new GatePatch();
+        for (int most = 3; most > 0; most--) {
+            x.begin(2, 0, 1);
+            x.gate(0, ZERO, -1, -1, -1);
+            x.out(0, 0, 2);
+            x.out(1, 0, x.gate(1, AND, 0, 1, -1));
+            for (int s = 0; s < most; s++) x.spare(AND, 10 + s, 0);
+            r.due(1, x.patch(2, -1, 0, 1, -1));
+            r.due(30, x.place());
+            r.due(0, x.node(0, 4));
+            r.due(most, x.spare(NOT, 0, 0));
+            x.out(1, 0, x.gate(1, NOT, 0, -1, -1));
+            r.due(1, x.patch(2, -1, 0, -1, -1));
+            r.due(0, x.place());
+            r.due(most, x.node(0, 4));
+        }
+        // two GATES that want two SPARES, ahead of one that wants the only one
+        x = Nets.zerosTo(0x88, 0x88);
+        for (int s = 0; s < 2; s++) x.spare(AND, 5, 5 * s);
+        r.due(2, x.patch(3, 4, 0, 1, -1));
+        r.due(45, x.place());
+        x.begin(2, 0, 1);
+        x.gate(0, ZERO, -1, -1, -1);
+        x.out(0, 0, 2);
+        x.out(1, 0, x.gate(1, AND, 0, 1, -1));
+        x.spare(AND, 1, 1);
+        r.due(1, x.patch(2, -1, 0, 1, -1));
+        r.due(6, x.place());
     }
 
     private void used() {
@@ -1365,12 +1420,38 @@ final class Calls {
         }
         r.due(NONE, x.undo());
         r.due(3, x.count(3));
+        undoneFunctions();
         // behind an undo() others can be APPLIED, and undone
         r.due(1, x.patch(5, -1, 0, 1, -1));
         r.due(1, x.apply());
         r.due(0, x.undo());
         r.due(NONE, x.undo());
         r.due(5, x.out(0, 0, 0));
+    }
+
+    /** A GATE behind the POINT does again what it did, and ARRIVES and HANGS as it did. */
+    private void undoneFunctions() {
+        GatePatch x = Nets.andTo(OR);
+        x.gate(0, NOT, 2, -1, -1);
+        x.delay(OR, 5);
+        r.due(7, x.row(0, 3, 0));
+        r.due(1, x.patch(2, -1, 0, 1, -1));
+        r.due(1, x.apply());
+        r.due(1, x.row(0, 3, 0));
+        r.due(6, x.arrive(0, 3));
+        r.due(0, x.hangs(0, 3, 2));
+        r.due(0, x.undo());
+        r.due(7, x.row(0, 3, 0));
+        r.due(2, x.arrive(0, 3));
+        r.due(1, x.hangs(0, 3, 2));
+        r.due(1, x.differ());
+        // the same by back()
+        x.image(0);
+        x.rewire(0, 3, 0, 1);
+        r.due(3, x.row(0, 3, 0));
+        r.due(2, x.back(0));
+        r.due(7, x.row(0, 3, 0));
+        r.due(1, x.hangs(0, 3, 2));
     }
 
     private void undoNone() {

@@ -863,6 +863,18 @@ final class Terms {
                 r.due(NONE, y.function(2));
             }
         }
+        // one CASE is FREE: of the two functions that are left the cheaper one, or the lesser one
+        for (int f = 0; f < 256; f++) {
+            for (int k = 0; k < 8; k++) {
+                GatePatch y = Nets.zeroTo(f);
+                y.free(k);
+                int with = f | 1 << k;
+                int without = f & ~(1 << k);
+                int due = Model.COSTS[3][with] < Model.COSTS[3][without] ? with : without;
+                r.due(Model.COSTS[3][due], y.patch(3, -1, 0, 1, 2));
+                r.due(due, y.function(0));
+            }
+        }
         // the greatest number as the first function, and as the second one
         x = Nets.zerosTo(255, 255);
         r.due(0, x.patch(3, 4, 0, 1, 2));
