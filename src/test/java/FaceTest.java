@@ -111,6 +111,12 @@ public final class FaceTest {
         for (Class<?> c : inside) {
             if (!Modifier.isStatic(c.getModifiers()) || Modifier.isPublic(c.getModifiers())) fault(c + " is not as rule 1 says");
             fields(c);
+            // rule 1 may be read so that it speaks of the classes inside too
+            for (Method m : c.getDeclaredMethods()) {
+                for (String face : METHODS) {
+                    if (face.contains(" " + m.getName() + "(")) fault(m + " bears the name of a public one");
+                }
+            }
         }
         fields(GatePatch.class);
     }

@@ -139,7 +139,8 @@ final class Refusals {
         StringBuilder s = new StringBuilder();
         counts(s, x);
         for (int net = 0; net < 2; net++) {
-            for (int w = 0; w < wires(x, net); w++) s.append(x.row(net, w, 0)).append(' ').append(x.arrive(net, w)).append(' ');
+            int wires = wires(x, net);
+            for (int w = 0; w < wires; w++) s.append(x.row(net, w, 0)).append(' ').append(x.arrive(net, w)).append(' ');
             s.append(x.idle(net)).append(' ');
         }
         for (int w = 4; w < 10; w++) for (int o = 0; o < 10; o++) s.append(x.hangs(0, w, o));
@@ -188,11 +189,18 @@ final class Refusals {
         for (int i = 0; i < 5; i++) {
             s.append(" undo").append(x.undo());
             counts(s, x);
-            for (int w = 0; w < Math.min(14, wires(x, 0)); w++) s.append(' ').append(x.row(0, w, 0));
+            int wires = Math.min(14, wires(x, 0));
+            for (int w = 0; w < wires; w++) s.append(' ').append(x.row(0, w, 0));
             for (int d = 0; d < 12; d++) s.append(" u").append(x.used(d));
         }
-        for (int w = 0; w < wires(x, 0); w++) s.append(" s").append(x.site(w, 0, 0));
+        sites(s, x, 48);
         return s.toString();
+    }
+
+    /** The FUNCTIONS and places of the first WIRES; the places are 0, 0 then. */
+    private static void sites(StringBuilder s, GatePatch x, int most) {
+        int wires = Math.min(most, wires(x, 0));
+        for (int w = 0; w < wires; w++) s.append(' ').append(x.row(0, w, 0)).append(' ').append(x.site(w, 0, 0));
     }
 
     private static String wiring(GatePatch x) {
@@ -200,9 +208,10 @@ final class Refusals {
         for (int net = 0; net < 2; net++) {
             for (int o = 0; o < 5; o++) s.append(" o").append(x.out(net, o, 0));
             for (int k = 0; k < 3; k++) s.append(" n").append(x.next(net, k, 0));
-            for (int g = 4; g < Math.min(34, wires(x, net)); g++) for (int p = 0; p < 3; p++) s.append(" r").append(x.rewire(net, g, p, 0));
+            int wires = Math.min(34, wires(x, net));
+            for (int g = 4; g < wires; g++) for (int p = 0; p < 3; p++) s.append(" r").append(x.rewire(net, g, p, 0));
         }
-        for (int w = 0; w < wires(x, 0); w++) s.append(" s").append(x.site(w, 0, 0));
+        sites(s, x, 48);
         for (int k = 0; k < 9; k++) s.append(" d").append(x.delay(k, 3));
         return s.toString();
     }
@@ -215,7 +224,7 @@ final class Refusals {
         counts(s, x);
         changes(s, x);
         for (int d = 0; d < 12; d++) s.append(" u").append(x.used(d));
-        for (int w = 0; w < Math.min(14, wires(x, 0)); w++) s.append(' ').append(x.row(0, w, 0)).append(' ').append(x.site(w, 0, 0));
+        sites(s, x, 14);
         for (int n = 0; n < 13; n++) s.append(" s").append(x.spare(n % 6, 0, 0));
         return s.toString();
     }
@@ -226,7 +235,8 @@ final class Refusals {
             s.append(" best").append(x.best(g));
             patch(s, x);
         }
-        for (int w = 0; w < wires(x, 0); w++) s.append(" m").append(x.mark(w, -1));
+        int wires = wires(x, 0);
+        for (int w = 0; w < wires; w++) s.append(" m").append(x.mark(w, -1));
         return s.toString();
     }
 
@@ -235,7 +245,7 @@ final class Refusals {
         for (int d = 0; d < 6; d++) {
             s.append(" back").append(x.back(d));
             counts(s, x);
-            for (int w = 0; w < Math.min(12, wires(x, 0)); w++) s.append(' ').append(x.row(0, w, 0)).append(' ').append(x.site(w, 0, 0));
+            sites(s, x, 12);
         }
         return s.toString();
     }

@@ -1087,16 +1087,19 @@ final class Terms {
             r.due(s, x.spare(spares[s][0], spares[s][1], spares[s][2]));
         }
         r.due(8, x.patch(3, 4, 0, 1, 2));
+        int[][] gates = new int[8][];
+        for (int i = 0; i < 8; i++) gates[i] = new int[] {x.node(i, 0), 3 + x.node(i, 3), x.node(i, 1) - 100, x.node(i, 2) - 100};
         int[] best = new int[9];
         best[8] = 1 << 20;
-        tryAll(x, at, spares, new int[8], 0, 0, best);
+        tryAll(gates, at, spares, new int[8], 0, 0, best);
         r.due(best[8], x.place());
         for (int i = 0; i < 8; i++) r.due(best[i], x.node(i, 4));
         r.due(8, x.apply());
         for (int i = 0; i < 8; i++) r.due(32 * spares[best[i]][2] + spares[best[i]][1], x.site(5 + i, 0, 0));
     }
 
-    private static void tryAll(GatePatch x, int[][] at, int[][] spares, int[] chosen, int i, int sum, int[] best) {
+    /** All placings, the least SPARES first: into best the SPARES of the first one with the least LENGTHS, and these. */
+    private static void tryAll(int[][] gates, int[][] at, int[][] spares, int[] chosen, int i, int sum, int[] best) {
         if (i == 8) {
             if (sum < best[8]) {
                 System.arraycopy(chosen, 0, best, 0, 8);
@@ -1104,16 +1107,17 @@ final class Terms {
             }
             return;
         }
-        int kind = x.node(i, 0);
-        int[] ends = {3 + x.node(i, 3), x.node(i, 1) - 100, x.node(i, 2) - 100};
         for (int s = 0; s < 12; s++) {
-            boolean taken = spares[s][0] != kind;
+            boolean taken = spares[s][0] != gates[i][0];
             for (int j = 0; j < i; j++) taken |= chosen[j] == s;
             if (taken) continue;
             int more = 0;
-            for (int e : ends) if (e >= 0) more += Math.abs(spares[s][1] - at[e][0]) + Math.abs(spares[s][2] - at[e][1]);
+            for (int k = 1; k < 4; k++) {
+                int wire = gates[i][k];
+                if (wire >= 0) more += Math.abs(spares[s][1] - at[wire][0]) + Math.abs(spares[s][2] - at[wire][1]);
+            }
             chosen[i] = s;
-            tryAll(x, at, spares, chosen, i + 1, sum + more, best);
+            tryAll(gates, at, spares, chosen, i + 1, sum + more, best);
         }
     }
 
