@@ -879,6 +879,7 @@ final class Calls {
         x.mark(5, 0);
         r.due(9, x.best(3));
         r.due(4, x.told(0));
+        bestHanging();
         // a WIRE for nothing is one too, and each price counts
         x.mark(4, 0);
         r.due(0, x.best(3));
@@ -907,6 +908,32 @@ final class Calls {
         r.due(2, x.apply());
         r.due(SAME, x.differ());
         bestRefusals();
+    }
+
+    /** A WIRE that does all that is wanted, for nothing, but HANGS on the POINT; and the POINT itself. */
+    private void bestHanging() {
+        GatePatch x = Nets.andTo(NAND);
+        x.gate(0, NOT, 2, -1, -1);
+        x.gate(0, AND, 3, 3, -1);
+        x.mark(3, 0);
+        x.mark(4, 0);
+        r.due(UNABLE, x.best(2));
+        x.mark(0, 1);
+        x.mark(1, 1);
+        r.due(12, x.best(2));
+        r.due(2, x.patched(2));
+        r.due(0, x.told(0));
+        r.due(1, x.told(1));
+        x = Nets.andTo(AND);
+        x.mark(2, 0);
+        r.due(UNABLE, x.best(2));
+        x.gate(0, AND, 0, 1, -1);
+        x.mark(3, 5);
+        r.due(5, x.best(2));
+        r.due(3, x.told(0));
+        // now 2 HANGS on 3, and neither of them is of use for 3
+        x.rewire(0, 2, 0, 3);
+        r.due(UNABLE, x.best(3));
     }
 
     private void bestRefusals() {
