@@ -25,6 +25,9 @@ public final class GatePatch {
     private static final int PART = 64, PARTS = 4;
 
     private static final int MOST_POINTS = 3, PATCH_POINTS = 2, MOST_TOLD = 3;
+    /** So many CASES by the ASSIGNMENTS of the most POINTS fill a long; each of them is at these bits. */
+    private static final int HARD = 8, HARD_BITS = 3;
+    private static final long EACH_HARD = 0x0101010101010101L;
     /** No function of three WIRES has a COST above 4, and a PATCH has at most two of them. */
     private static final int MOST_COST = 4, MOST_NODES = PATCH_POINTS * MOST_COST;
     private static final int LEAF = 100, LEAF_ZERO = 200, LEAF_ONE = 201, NO_PART = -2;
@@ -229,16 +232,19 @@ public final class GatePatch {
             return NONE;
         }
         refreshBoth();
-        if (mender.firstDifference() == SAME) {
+        int difference = mender.firstDifference();
+        if (difference == SAME) {
             return 0;
         }
-        int found = mender.search(n);
-        if (found == 0) {
-            return UNABLE;
+        mender.startSearch(difference);
+        for (int size = 1; size <= n; size++) {
+            if (mender.search(size)) {
+                System.arraycopy(mender.points, 0, keptPoints, 0, size);
+                keptCount = size;
+                return size;
+            }
         }
-        System.arraycopy(mender.points, 0, keptPoints, 0, found);
-        keptCount = found;
-        return found;
+        return UNABLE;
     }
 
     public int point(int k) {
@@ -909,17 +915,22 @@ public final class GatePatch {
         int number;
         /** A bit for each POINT, by WIRE. */
         long mask;
-        /** The values of OLD's WIRES in the part that is loaded. */
+        /** The values of OLD's WIRES in what is loaded, and those that its OBSERVED are to have. */
         private final long[] now = new long[MOST_WIRES];
+        private final long[] due = new long[MOST_SEEN];
         /** The GATES that HANG on a POINT and are none: those alone are made anew for an ASSIGNMENT. */
         private final int[] cone = new int[OLD_GATES];
         private int coneSize;
-        private int loaded;
         /** For each OBSERVED that is other than WISH's: what it HANGS on. */
         private final long[] wrong = new long[MOST_SEEN];
         private int wrongCount;
-        /** The part in which the last set of a search failed: the next one is likely to fail there too. */
-        private int hotPart;
+        /**
+         * Eight CASES at which sets of a search failed, the next one is likely to fail there too: what is
+         * loaded for them, bit 8 q + c for the c-th of them with the ASSIGNMENT q.
+         */
+        private final long[] hardNow = new long[MOST_WIRES];
+        private final long[] hardDue = new long[MOST_SEEN];
+        private int hardNext;
 
         Mender(Net oldNet, Net wishNet, Cases someCases) {
             old = oldNet;
@@ -976,6 +987,13 @@ public final class GatePatch {
             for (int w = 0; w < old.plan.wires(); w++) {
                 now[w] = old.words[PARTS * w + part];
             }
+            for (int i = 0; i < wish.plan.seenCount(); i++) {
+                due[i] = wish.words[PARTS * wish.plan.seen[i] + part];
+            }
+            findCone();
+        }
+
+        private void findCone() {
             coneSize = 0;
             for (int i = 0; i < old.plan.gates; i++) {
                 int g = old.order[i];
@@ -984,7 +1002,6 @@ public final class GatePatch {
                     coneSize++;
                 }
             }
-            loaded = part;
         }
 
         /** The CASES of the loaded part that an ASSIGNMENT MENDS. */
@@ -992,13 +1009,18 @@ public final class GatePatch {
             for (int k = 0; k < number; k++) {
                 now[points[k]] = (assignment >> k & 1) == 1 ? -1L : 0L;
             }
+            return matching();
+        }
+
+        /** The bits of what is loaded at which the values of the POINTS make each OBSERVED as it is due. */
+        private long matching() {
             for (int i = 0; i < coneSize; i++) {
                 int g = cone[i];
                 now[g] = Net.made(old.plan.kinds[g], pinNow(g, 0), pinNow(g, 1), pinNow(g, 2));
             }
             long same = -1L;
             for (int i = 0; i < old.plan.seenCount(); i++) {
-                same &= ~(now[old.plan.seen[i]] ^ wish.words[PARTS * wish.plan.seen[i] + loaded]);
+                same &= ~(now[old.plan.seen[i]] ^ due[i]);
             }
             return same;
         }
@@ -1098,18 +1120,16 @@ public final class GatePatch {
             return found;
         }
 
-        /** How many POINTS the first set that is ENOUGH has (it works for them then), or 0. */
-        int search(int most) {
+        /** A search begins for a CASE that is a difference. */
+        void startSearch(int difference) {
             findWrong();
-            for (int size = 1; size <= most; size++) {
-                if (searchSize(size)) {
-                    return size;
-                }
+            for (int c = 0; c < HARD; c++) {
+                addHard(difference);
             }
-            return 0;
         }
 
-        private boolean searchSize(int size) {
+        /** Whether a set of so many POINTS is ENOUGH; if so it works for the first one. */
+        boolean search(int size) {
             int end = old.plan.wires();
             for (int a = old.plan.sources(); a < end; a++) {
                 if (size == 1 && isEnough(a, -1, -1)) {
@@ -1131,14 +1151,12 @@ public final class GatePatch {
 
         private void findWrong() {
             wrongCount = 0;
-            hotPart = 0;
             for (int i = 0; i < old.plan.seenCount(); i++) {
                 int mine = old.plan.seen[i];
-                int due = wish.plan.seen[i];
+                int other = wish.plan.seen[i];
                 for (int part = 0; part < cases.parts; part++) {
-                    long differing = old.words[PARTS * mine + part] ^ wish.words[PARTS * due + part];
+                    long differing = old.words[PARTS * mine + part] ^ wish.words[PARTS * other + part];
                     if ((differing & cases.live[part]) != 0) {
-                        hotPart = part;
                         wrong[wrongCount] = old.below[mine];
                         wrongCount++;
                         break;
@@ -1148,22 +1166,50 @@ public final class GatePatch {
         }
 
         private boolean isEnough(int a, int b, int c) {
-            aim(a, b, c);
+            if (!aim(a, b, c)) {
+                return false;
+            }
             for (int i = 0; i < wrongCount; i++) {
                 if ((wrong[i] & mask) == 0) {
                     return false;
                 }
             }
-            if (unmended(hotPart) != 0) {
+            if (failsHard()) {
                 return false;
             }
-            for (int part = 0; part < cases.parts; part++) {
-                if (part != hotPart && unmended(part) != 0) {
-                    hotPart = part;
-                    return false;
-                }
+            int kase = firstUnmended();
+            if (kase != SAME) {
+                addHard(kase);
             }
-            return true;
+            return kase == SAME;
+        }
+
+        private boolean failsHard() {
+            System.arraycopy(hardNow, 0, now, 0, old.plan.wires());
+            System.arraycopy(hardDue, 0, due, 0, old.plan.seenCount());
+            findCone();
+            for (int k = 0; k < number; k++) {
+                now[points[k]] = COUNTING[HARD_BITS + k];
+            }
+            long same = matching();
+            long mended = 0;
+            for (int q = 0; q < 1 << MOST_POINTS; q++) {
+                mended |= same >> HARD * q;
+            }
+            return (~mended & (1 << HARD) - 1) != 0;
+        }
+
+        /** The CASE, not FREE, comes in the place of the one that has been there longest. */
+        private void addHard(int kase) {
+            long bits = EACH_HARD << hardNext;
+            for (int w = 0; w < old.plan.wires(); w++) {
+                hardNow[w] = hardNow[w] & ~bits | bits & -(old.words[PARTS * w + kase / PART] >> kase % PART & 1);
+            }
+            for (int i = 0; i < wish.plan.seenCount(); i++) {
+                long word = wish.words[PARTS * wish.plan.seen[i] + kase / PART];
+                hardDue[i] = hardDue[i] & ~bits | bits & -(word >> kase % PART & 1);
+            }
+            hardNext = (hardNext + 1) % HARD;
         }
     }
 

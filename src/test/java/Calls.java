@@ -12,7 +12,7 @@ final class Calls {
 
     void all() {
         made(); begin(); beginTapes(); gate(); rewire(); out(); next(); free(); value(); row(); hangs();
-        differ(); enough(); points(); pointsOrder(); point(); mend(); witness(); judge();
+        differ(); enough(); points(); pointsOrder(); pointsElsewhere(); pointsByEnough(); point(); mend(); witness(); judge();
         patch(); clash(); mark(); marksStay(); best(); bestOrder(); bestMany(); patched(); function(); told(); node(); cost();
         site(); spare(); place(); used(); delay(); arrive(); late();
         apply(); applyFull(); undo(); undoNone(); change(); test(); idle();
@@ -466,6 +466,83 @@ final class Calls {
         r.due(2, x.points(2));
         r.due(4, x.point(0));
         r.due(5, x.point(1));
+    }
+
+    /** The first output is right already, 0 or 1, and no POINT touches it; the second one differs late. */
+    private void pointsElsewhere() {
+        r.says("The first set of at most n POINTS that is ENOUGH, smaller sets first, then by the first GATE, the second, the third: how many they are;");
+        for (int input = 0; input < 8; input++) {
+            for (int right = 0; right < 10; right++) {
+                GatePatch x = new GatePatch();
+                x.begin(8, 0, 2);
+                x.gate(0, ZERO, -1, -1, -1);
+                x.gate(1, ZERO, -1, -1, -1);
+                x.gate(0, ONE, -1, -1, -1);
+                x.gate(1, ONE, -1, -1, -1);
+                x.out(0, 0, right);
+                x.out(1, 0, right);
+                x.gate(0, ZERO, -1, -1, -1);
+                x.out(0, 1, 10);
+                x.out(1, 1, input);
+                r.due(1 << input, x.differ());
+                r.due(1, x.points(3));
+                r.due(10, x.point(0));
+                // it is wrong too, but only where it can't be mended
+                x.out(1, 0, right == input ? 8 : input);
+                r.due(right < 8 ? UNABLE : 2, x.points(3));
+            }
+        }
+    }
+
+    /** All sets in their order, looked at by enough(), against points(): nets of 11 GATES and 256 CASES. */
+    private void pointsByEnough() {
+        r.says("The first set of at most n POINTS that is ENOUGH, smaller sets first, then by the first GATE, the second, the third: how many they are;");
+        int[] sizes = new int[4];
+        for (int seed = 0; seed < 160; seed++) {
+            GatePatch x = elevenGates(seed);
+            int[] first = firstEnough(x);
+            int size = first[0] == -1 ? 0 : first[1] == -1 ? 1 : first[2] == -1 ? 2 : 3;
+            sizes[size]++;
+            for (int n = 1; n <= 3; n++) r.due(size == 0 || n < size ? UNABLE : size, x.points(n));
+            for (int k = 0; k < 3; k++) r.due(first[k], x.point(k));
+        }
+        // each size, and none at all, comes often enough to show something
+        for (int size = 0; size < 4; size++) r.due(1, sizes[size] >= 5 ? 1 : 0);
+    }
+
+    private static GatePatch elevenGates(int seed) {
+        GatePatch x = new GatePatch();
+        x.begin(7, 1, 4);
+        for (int g = 0; g < 11; g++) {
+            int w = 8 + g;
+            int a = w - 1 - (seed + g * g) % 4;
+            int b = (seed / 3 + 5 * g) % w;
+            int kind = AND + (seed * 7 + g * 3) % 5;
+            boolean other = (seed * 5 + g * 4) % 11 < 1 + seed % 4;
+            x.gate(0, kind, a, b, -1);
+            x.gate(1, other ? AND + (kind + seed) % 5 : kind, a, b, -1);
+        }
+        for (int net = 0; net < 2; net++) {
+            for (int o = 0; o < 4; o++) x.out(net, o, 18 - o * (seed % 3));
+            x.next(net, 0, 8 + seed % 5);
+        }
+        for (int k = 0; k < seed % 5; k++) x.free(51 * k);
+        if (x.differ() == SAME) x.out(1, 0, 17);
+        if (x.differ() == SAME) x.out(1, 0, 7);
+        return x;
+    }
+
+    private static int[] firstEnough(GatePatch x) {
+        for (int a = 8; a < 19; a++) if (x.enough(a, -1, -1) == SAME) return new int[] {a, -1, -1};
+        for (int a = 8; a < 19; a++) {
+            for (int b = a + 1; b < 19; b++) if (x.enough(a, b, -1) == SAME) return new int[] {a, b, -1};
+        }
+        for (int a = 8; a < 19; a++) {
+            for (int b = a + 1; b < 19; b++) {
+                for (int c = b + 1; c < 19; c++) if (x.enough(a, b, c) == SAME) return new int[] {a, b, c};
+            }
+        }
+        return new int[] {NONE, NONE, NONE};
     }
 
     private void point() {

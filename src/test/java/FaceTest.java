@@ -9,7 +9,7 @@ import java.nio.file.Path;
 import java.util.List;
 import java.util.TreeSet;
 
-/** The public face is the document's to the letter, and the file keeps to rules that a text search can see. */
+/** The public face is the document's to the letter. LanguageTest looks at what is behind it. */
 public final class FaceTest {
     private static final String[] CONSTANTS = {
         "NONE=-1", "RING=-2", "FULL=-3", "UNABLE=-4", "SPARE=-5", "SAME=1000",
@@ -31,19 +31,11 @@ public final class FaceTest {
         "int count(int)",
     };
 
-    /** What LANGUAGE.md leaves out. */
-    private static final String[] BANNED = {
-        "->", "::", "finally", "synchronized", "assert ", "catch", "Exact(", "package ", "System.nanoTime",
-        "System.currentTimeMillis", "Random", "getMessage", "protected", " record ", "interface ", "hashCode",
-        "toString", "equals(", "Object ", "lambda", "double", "float",
-    };
-
     private static int wrong;
 
     public static void main(String[] args) throws IOException {
         face();
-        nested();
-        source();
+        signs();
         System.out.println(wrong == 0 ? "the face and the file are as due" : wrong + " faults");
         if (wrong != 0) System.exit(1);
     }
@@ -105,50 +97,12 @@ public final class FaceTest {
         return text.toString();
     }
 
-    private static void nested() {
-        Class<?>[] inside = GatePatch.class.getDeclaredClasses();
-        if (inside.length > 11) fault("more than twelve classes");
-        for (Class<?> c : inside) {
-            if (!Modifier.isStatic(c.getModifiers()) || Modifier.isPublic(c.getModifiers())) fault(c + " is not as rule 1 says");
-            fields(c);
-            // rule 1 may be read so that it speaks of the classes inside too
-            for (Method m : c.getDeclaredMethods()) {
-                for (String face : METHODS) {
-                    if (face.contains(" " + m.getName() + "(")) fault(m + " bears the name of a public one");
-                }
-            }
-        }
-        fields(GatePatch.class);
-    }
-
-    private static void fields(Class<?> c) {
-        int own = 0;
-        for (Field f : c.getDeclaredFields()) {
-            if (!Modifier.isStatic(f.getModifiers())) own++;
-            else if (!Modifier.isFinal(f.getModifiers())) fault(f + " is static and not final");
-        }
-        if (own > 20) fault(c + " has " + own + " fields");
-        for (Method m : c.getDeclaredMethods()) if (m.getParameterCount() > 7) fault(m + " has too many parameters");
-    }
-
-    private static void source() throws IOException {
+    private static void signs() throws IOException {
         List<String> lines = Files.readAllLines(Path.of("src/main/java/GatePatch.java"));
-        int start = 0;
         for (int i = 0; i < lines.size(); i++) {
-            String line = lines.get(i);
-            String code = line.strip();
-            if (code.startsWith("*") || code.startsWith("/*") || code.startsWith("//")) continue;
-            for (String b : BANNED) if (code.contains(b)) fault("line " + (i + 1) + " has " + b);
-            if (code.startsWith("import ") && !code.equals("import java.util.Arrays;")) fault("line " + (i + 1) + ": " + code);
-            boolean made = code.contains("new ") && !code.startsWith("throw new ");
-            // no call makes an object: only fields and two loops in constructors do
-            if (made && !code.contains("final ") && !code.startsWith("tapes[d] = ") && !code.startsWith("before[i] = ")) {
-                fault("line " + (i + 1) + " makes an object in a call");
+            for (int k = 0; k < lines.get(i).length(); k++) {
+                if (lines.get(i).charAt(k) > 126) fault("line " + (i + 1) + " has a sign beyond 126");
             }
-            if (line.matches(" {4,8}\\w.*\\) (throws .*)?\\{")) start = i;
-            if (line.matches(" {4,8}}") && i - start > 60) fault("line " + (i + 1) + ": a method of more than 60 lines, or none");
-            if (line.matches(" {4,8}}")) start = i;
-            for (int k = 0; k < line.length(); k++) if (line.charAt(k) > 126) fault("line " + (i + 1) + " has a sign beyond 126");
         }
     }
 }
