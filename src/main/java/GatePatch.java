@@ -25,9 +25,9 @@ public final class GatePatch {
     private static final int PART = 64, PARTS = 4;
 
     private static final int MOST_POINTS = 3, PATCH_POINTS = 2, MOST_TOLD = 3;
-    /** So many CASES by the ASSIGNMENTS of the most POINTS fill a long; each of them is at these bits. */
+    /** So many CASES, each with all ASSIGNMENTS of three POINTS, fill a long; the first one is at these bits. */
     private static final int HARD = 8, HARD_BITS = 3;
-    private static final long EACH_HARD = 0x0101010101010101L;
+    private static final long FIRST_HARD = 0x0101010101010101L;
     /** No function of three WIRES has a COST above 4, and a PATCH has at most two of them. */
     private static final int MOST_COST = 4, MOST_NODES = PATCH_POINTS * MOST_COST;
     private static final int LEAF = 100, LEAF_ZERO = 200, LEAF_ONE = 201, NO_PART = -2;
@@ -925,8 +925,8 @@ public final class GatePatch {
         private final long[] wrong = new long[MOST_SEEN];
         private int wrongCount;
         /**
-         * Eight CASES at which sets of a search failed, the next one is likely to fail there too: what is
-         * loaded for them, bit 8 q + c for the c-th of them with the ASSIGNMENT q.
+         * What is loaded for eight CASES at which sets of a search failed: the next one is likely to fail
+         * there too. Bit 8 q + c is for the c-th of them, with the ASSIGNMENT q.
          */
         private final long[] hardNow = new long[MOST_WIRES];
         private final long[] hardDue = new long[MOST_SEEN];
@@ -1201,7 +1201,7 @@ public final class GatePatch {
 
         /** The CASE, not FREE, comes in the place of the one that has been there longest. */
         private void addHard(int kase) {
-            long bits = EACH_HARD << hardNext;
+            long bits = FIRST_HARD << hardNext;
             for (int w = 0; w < old.plan.wires(); w++) {
                 hardNow[w] = hardNow[w] & ~bits | bits & -(old.words[PARTS * w + kase / PART] >> kase % PART & 1);
             }
